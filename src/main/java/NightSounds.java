@@ -82,7 +82,7 @@ public final class NightSounds {
     private final Mind mind = new Mind();
     private final Mind[] images = new Mind[MOST_IMAGES];
     private int imageCount;
-    private final Sounds sounds = new Sounds(now, new Air());
+    private final Sounds sounds = new Sounds();
     /** HOUSES that HEAR with each set of WORKS, for one AIR and hour; NONE: not looked at yet. */
     private final int[] hearers = new int[1 << MOST_WORKS];
     private int hearersAir = NONE;
@@ -1135,8 +1135,6 @@ public final class NightSounds {
 
     /** A RAY on its way: CELL by CELL, one a step. */
     private static final class Ray {
-        private Land land;
-        private Air air;
         private int from;
         private int up;
         private int level;
@@ -1148,24 +1146,18 @@ public final class NightSounds {
         private int slope;
         private int remains;
 
-        private Ray(Land land, Air air) {
-            this.land = land;
-            this.air = air;
-        }
-
-        private void setWorld(Land land, Air air) {
-            this.land = land;
-            this.air = air;
-        }
-
-        private void setSource(int from, int up, int level, int pitch) {
+        private void setSound(int from, int up, int level, int pitch) {
             this.from = from;
             this.up = up;
             this.level = level;
             this.pitch = pitch;
         }
 
-        private void start(int direction, int slope) {
+        private void setSource(Land land, int source) {
+            setSound(land.sourceCells[source], SOURCE_UP, land.levels[source], land.pitches[source]);
+        }
+
+        private void start(Land land, int direction, int slope) {
             toward = direction == 0 ? 1 : -1;
             x = from;
             away = 0;
@@ -1175,7 +1167,7 @@ public final class NightSounds {
         }
 
         /** Goes a CELL farther; false: it has ended, or the LAND. */
-        private boolean goes() {
+        private boolean goes(Land land, Air air) {
             x += toward;
             away++;
             if (x < 0 || x >= land.cells) {
@@ -1201,22 +1193,18 @@ public final class NightSounds {
             return true;
         }
 
-        private boolean isNearGround() {
+        private boolean isNearGround(Land land) {
             return place - land.height[x] <= HEARD_UP;
         }
     }
 
     /** How LOUD it is where; what the SOURCES of the LAND now do is kept until that changes. */
     private static final class Sounds {
-        private final Ray beam;
+        private final Ray beam = new Ray();
         private final int[][] rows = new int[MOST_AIRS * MOST_SOURCES][MOST_CELLS];
         private final boolean[] known = new boolean[MOST_AIRS * MOST_SOURCES];
         private final int[] one = new int[MOST_CELLS];
         private final int[] most = new int[MOST_CELLS];
-
-        private Sounds(Land land, Air air) {
-            beam = new Ray(land, air);
-        }
 
         private void unhear() {
             for (int i = 0; i < known.length; i++) {
@@ -1227,9 +1215,8 @@ public final class NightSounds {
         private int[] rowOf(Land land, Air air, int airNumber, int source) {
             int i = airNumber * MOST_SOURCES + source;
             if (!known[i]) {
-                beam.setWorld(land, air);
-                beam.setSource(land.sourceCells[source], SOURCE_UP, land.levels[source], land.pitches[source]);
-                spread(rows[i]);
+                beam.setSource(land, source);
+                spread(land, air, rows[i]);
                 known[i] = true;
             }
             return rows[i];
@@ -1237,9 +1224,8 @@ public final class NightSounds {
 
         /** LOUD of one sound at each CELL. */
         private int[] alone(Land land, Air air, int x, int up, int level, int pitch) {
-            beam.setWorld(land, air);
-            beam.setSource(x, up, level, pitch);
-            spread(one);
+            beam.setSound(x, up, level, pitch);
+            spread(land, air, one);
             return one;
         }
 
@@ -1248,31 +1234,32 @@ public final class NightSounds {
             Arrays.fill(most, 0);
             for (int s = 0; s < land.sources; s++) {
                 if (land.soundsIn(s, hour)) {
-                    int[] row = alone(land, air, land.sourceCells[s], SOURCE_UP, land.levels[s], land.pitches[s]);
+                    beam.setSource(land, s);
+                    spread(land, air, one);
                     for (int x = 0; x < land.cells; x++) {
-                        most[x] = Math.max(most[x], row[x]);
+                        most[x] = Math.max(most[x], one[x]);
                     }
                 }
             }
             return most;
         }
 
-        private void spread(int[] row) {
+        private void spread(Land land, Air air, int[] row) {
             Arrays.fill(row, 0);
             if (beam.level <= 0) {
                 return;
             }
             row[beam.from] = beam.level;
             for (int slope = LOWEST_SLOPE; slope <= HIGHEST_SLOPE; slope++) {
-                spreadRay(row, 0, slope);
-                spreadRay(row, 1, slope);
+                spreadRay(land, air, row, 0, slope);
+                spreadRay(land, air, row, 1, slope);
             }
         }
 
-        private void spreadRay(int[] row, int direction, int slope) {
-            beam.start(direction, slope);
-            for (int i = 1; i < MOST_CELLS && beam.goes(); i++) {
-                if (beam.isNearGround()) {
+        private void spreadRay(Land land, Air air, int[] row, int direction, int slope) {
+            beam.start(land, direction, slope);
+            for (int i = 1; i < MOST_CELLS && beam.goes(land, air); i++) {
+                if (beam.isNearGround(land)) {
                     row[beam.x] = Math.max(row[beam.x], beam.remains);
                 }
             }
@@ -1280,12 +1267,11 @@ public final class NightSounds {
 
         /** Takes a RAY of a SOURCE some CELLS away; false: it does not come so far. */
         private boolean follow(Land land, Air air, int source, int direction, int slope, int steps) {
-            beam.setWorld(land, air);
-            beam.setSource(land.sourceCells[source], SOURCE_UP, land.levels[source], land.pitches[source]);
-            beam.start(direction, slope);
+            beam.setSource(land, source);
+            beam.start(land, direction, slope);
             boolean goesOn = beam.level > 0;
             for (int i = 0; i < steps && goesOn; i++) {
-                goesOn = beam.goes();
+                goesOn = beam.goes(land, air);
             }
             return goesOn;
         }

@@ -22,6 +22,8 @@ public final class PromisesTest {
         rays();
         raysEnd();
         raysBend();
+        raysAtTheTop();
+        airsBehindFaults();
         rayRefusals();
         loud();
         at();
@@ -45,6 +47,7 @@ public final class PromisesTest {
         wagons();
         forget();
         images();
+        imagesOfClicksAndFoam();
         status();
         count();
         Check.end();
@@ -437,6 +440,11 @@ public final class PromisesTest {
         along("11: 24 is not too high", x, 0, 6, new int[] {6, 12, 18, 24, -1}, new int[] {99, 92, 85, 84, 0});
         Check.land(x, "wall 2 3;source 0 99 1 1;");
         along("11: below the wall", x, 0, 0, new int[] {1, 1, -1, -1}, new int[] {99, 92, 0, 0});
+        Check.land(x, "wall 2 1;source 0 99 1 1;ground 1 2 2 0;");
+        along("11: below a low wall", x, 0, -1, new int[] {1, 0, 1}, new int[] {99, 92, 85});
+        Check.land(x, "wall 1 1;source 0 99 1 1;");
+        along("11: on the ground before a low wall", x, 0, -1, new int[] {1, -1}, new int[] {99, 0});
+        Check.land(x, "wall 2 3;source 0 99 1 1;");
         along("11: on the wall", x, 0, 1, new int[] {1, 2, 3, 4}, new int[] {99, 92, 85, 84});
         Check.land(x, "ground 2 2 0 4;wall 2 3;source 0 99 1 1;");
         along("11: a wall on a hill", x, 0, 2, new int[] {1, 3, -1}, new int[] {99, 92, 0});
@@ -467,6 +475,25 @@ public final class PromisesTest {
         x = Check.with("ground 0 3 0 9;source 0 99 1 1;", "layer 6 0;layer 5 0;layer 4 0;layer 3 0;wind 0;");
         along("11: not below -6", x, 0, 3, new int[] {10, 13, 12, 9, 10, 7, 1, 0, 4},
                 new int[] {99, 92, 85, 81, 74, 73, 72, 68, 61});
+    }
+
+    private static void raysAtTheTop() {
+        NightSounds x = Check.with("ground 0 0 0 9;source 0 99 1 1;", "layer 10 0;layer 11 1;wind 1;");
+        along("11: layer 11", x, 0, 6, new int[] {10, 16, 21, 23, 23, 21}, new int[] {99, 92, 85, 84, 77, 76});
+        x = Check.with("ground 0 0 0 9;source 0 99 1 1;", "layer 7 4;layer 10 0;layer 11 0;wind 1;");
+        along("11: 24 is of layer 11", x, 0, 5, new int[] {10, 15, 21, 24, 24, 21}, new int[] {99, 92, 85, 84, 77, 76});
+    }
+
+    private static void airsBehindFaults() {
+        NightSounds x = Check.with("source 0 99 1 1;house 0 0;");
+        Check.air(x, "layer 0 4;wind 4;weight 9;fine 0;x");
+        due("4: after a fault", Check.air(x, ""), 0);
+        along("4: nothing stays of it", x, 0, 0, new int[] {1, 1, 1, 1}, new int[] {99, 92, 85, 84});
+        due("4: nor its weight", x.nights(0, 0, 1), 1);
+        due("4: nor how fine", x.saying(0, 0, 0, 1), 2);
+        Check.land(x, "source 0 99 1 1;house 0 0;wall 5 5;ground 3 9 2 7;hum 3 3;tar 1 1 1;x");
+        due("3: after a fault", Check.land(x, "source 0 99 1 1;"), 0);
+        due("3: nothing stays of it", x.cell(5, 0) + x.cell(5, 1) + x.cell(5, 2) + x.hum(3) + x.told(3), 0);
     }
 
     private static void rayRefusals() {
@@ -569,6 +596,13 @@ public final class PromisesTest {
         due("17: by 0 and not by 1", x.why(0, 1, 0), 3);
         due("17: by 1 and not by 0", x.why(1, 0, 0), 0);
         due("17: by the same", x.why(0, 0, 0), 0);
+        Check.land(x, "cells 8;source 7 24 1 1;wall 6 5;");
+        due("17: loud by 1", x.loud(2, 0, 0), 1);
+        due("17: that counts", x.why(0, 1, 0), 1);
+        due("16: it counts for zones too", x.zones(0, 0, 0), 4);
+        due("16: the first behind it", x.zones(0, 0, 1), 3);
+        Check.land(x, "cells 8;source 0 24 1 1;wall 1 5;");
+        due("16: on the other side", x.zones(0, 0, 0), 4);
         Check.noElement("17: air", x, () -> x.why(2, 0, 0));
         Check.noElement("17: other", x, () -> x.why(0, 2, 0));
         Check.noElement("17: source", x, () -> x.why(0, 0, 1));
@@ -737,6 +771,11 @@ public final class PromisesTest {
         Check.noArgument("26: bits", x, () -> x.bell(0, 0, 1, 1, 4));
         Check.land(x, "cells 9;house 0 0;source 0 90 1 1;");
         due("26: it alone", x.bell(0, 0, 1, 1, 1), 100);
+        due("26: the loudest", x.bell(0, 0, 120, 3, 0), 100);
+        Check.land(x, "cells 9;house 0 20;house 2 0;wall 1 6;ground 2 2 0 1;");
+        due("26: 9 above the ground", x.bell(1, 0, 20, 1, 3), 900);
+        Check.land(x, "cells 9;house 0 20;house 2 0;wall 1 7;ground 2 2 0 2;");
+        due("26: 10 would do", x.bell(1, 0, 20, 1, 3), -1);
     }
 
     // Promises 27 and 28
@@ -782,6 +821,8 @@ public final class PromisesTest {
         NightSounds never = Check.with("house 0 0;source 0 9 1 1;", "fine 0;", "weight 4;fine 0;");
         due("28: never fine", never.saying(0, 0, 0, 0), 0);
         due("28: never fine, by 1", never.saying(0, 0, 0, 1), 1);
+        NightSounds half = Check.with("house 0 0;source 0 9 1 1;", "");
+        due("28: 4 of 8 without", half.saying(0, 0, 0, 0) * 10 + half.saying(0, 0, 0, 1), 12);
     }
 
     // Promises 29 and 30
@@ -803,10 +844,13 @@ public final class PromisesTest {
     private static void bang() {
         NightSounds x = Check.with("cells 12;house 4 10;house 7 0;hum 0 5;", "");
         due("30: nobody tells", x.bang(0, 0, 60, 2, 0), (1 << 12) - 1);
+        due("30: the least there may be", x.bang(0, 0, 1, 1, 99), (1 << 12) - 1);
         x.tell(0, 14);
         x.tell(1, 20);
         due("30: from the left", x.bang(0, 0, 60, 2, 0), 31);
         due("30: 15 is heard, not less", x.bang(0, 0, 29, 2, 0), 0b11100);
+        due("30: 3 apart is not right to 1", x.bang(0, 0, 60, 1, 1), 0);
+        due("30: but to 2", x.bang(0, 0, 60, 1, 2), 31);
         x.tell(1, 14);
         due("30: between them there is no middle", x.bang(0, 0, 60, 2, 0), 0);
         due("30: right to 1", x.bang(0, 0, 60, 2, 1), 0b1100000);
@@ -924,6 +968,35 @@ public final class PromisesTest {
         due("35: the first's wall, as it was done", x.cell(2, 2), 3);
         due("35: the first's time", x.tell(0, 88), 30);
         due("35: the first's clicks", x.click(6), 3);
+    }
+
+    private static void imagesOfClicksAndFoam() {
+        NightSounds x = Check.with("house 1 5;foam 0 9 1;foam 0 1 1;source 0 40 1 1;hush 0 1 1;tar 19 19 1;", "");
+        int[] times = {5, 6, 9, 10, 25, 26, 29, 30};
+        for (int time : times) {
+            x.click(time);
+        }
+        x.does(0);
+        x.does(2);
+        x.image();
+        x.does(1);
+        x.does(3);
+        due("10: more ear", x.ear(0), 15);
+        due("10: the last cell is tarred", x.cell(19, 0), 2);
+        x.forget();
+        for (int time : times) {
+            x.click(time * 2);
+        }
+        due("32: half the pace", x.wagons(12, 1), 30);
+        due("35: back", x.restore(), 0);
+        due("35: the pace again", x.wagons(12, 1), 60);
+        due("35: no earlier click", x.click(31), 9);
+        due("35: the first foam alone", x.ear(0), 14);
+        due("35: the hush stays", x.loud(0, 0, 0), 39);
+        due("35: the tar is gone", x.cell(19, 0), 0);
+        due("35: works done", x.count(0), 2);
+        due("35: what is done stays so", x.does(2), 0);
+        due("35: what is undone can be done", x.does(1), 1);
     }
 
     private static void status() {
