@@ -1096,8 +1096,8 @@ public final class NightSounds {
     private static final class Air {
         private final int[] bends = new int[LAYERS];
         private int wind;
-        private int weight = 1;
-        private int fine = 4;
+        private int weight;
+        private int fine;
 
         private void read(Tape tape) {
             Arrays.fill(bends, 0);
@@ -1244,23 +1244,21 @@ public final class NightSounds {
             return most;
         }
 
+        /** LOUD at each CELL of the sound that the beam is set to: the most of its RAYS. */
         private void spread(Land land, Air air, int[] row) {
             Arrays.fill(row, 0);
             if (beam.level <= 0) {
                 return;
             }
             row[beam.from] = beam.level;
-            for (int slope = LOWEST_SLOPE; slope <= HIGHEST_SLOPE; slope++) {
-                spreadRay(land, air, row, 0, slope);
-                spreadRay(land, air, row, 1, slope);
-            }
-        }
-
-        private void spreadRay(Land land, Air air, int[] row, int direction, int slope) {
-            beam.start(land, direction, slope);
-            for (int i = 1; i < MOST_CELLS && beam.goes(land, air); i++) {
-                if (beam.isNearGround(land)) {
-                    row[beam.x] = Math.max(row[beam.x], beam.remains);
+            for (int direction = 0; direction <= 1; direction++) {
+                for (int slope = LOWEST_SLOPE; slope <= HIGHEST_SLOPE; slope++) {
+                    beam.start(land, direction, slope);
+                    for (int i = 1; i < MOST_CELLS && beam.goes(land, air); i++) {
+                        if (beam.isNearGround(land)) {
+                            row[beam.x] = Math.max(row[beam.x], beam.remains);
+                        }
+                    }
                 }
             }
         }

@@ -38,8 +38,10 @@ public final class AgainstModelTest {
         texts = new RandomTexts(random);
     }
 
+    /** With an argument: so many runs, for a longer look by hand. */
     public static void main(String[] args) throws Exception {
-        for (int seed = 1; seed <= RUNS && wrong == 0; seed++) {
+        int runs = args.length == 0 ? RUNS : Integer.parseInt(args[0]);
+        for (int seed = 1; seed <= runs && wrong == 0; seed++) {
             new AgainstModelTest(seed).run();
         }
         System.out.println(calls + " calls, " + refusedCalls + " of them refused, " + wrong + " wrong");
