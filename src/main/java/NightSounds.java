@@ -76,8 +76,7 @@ public final class NightSounds {
     private Land spare = new Land();
     private final Land now = new Land();
     private final Land trial = new Land();
-    /** One more than there may be: a text is read even where its AIR has no room. */
-    private final Air[] airs = new Air[MOST_AIRS + 1];
+    private final Air[] airs = new Air[MOST_AIRS];
     private int airCount;
     private final Mind mind = new Mind();
     private final Mind[] images = new Mind[MOST_IMAGES];
@@ -128,13 +127,15 @@ public final class NightSounds {
 
     public int air(int n) throws IllegalArgumentException {
         needArgument(n >= 0 && n <= Math.min(tape.fed, MOST_AIR_BYTES));
+        if (airCount >= MOST_AIRS) {
+            // The bytes are no text then: the FAULT of the latest one is still told.
+            tape.empty();
+            return -1;
+        }
         tape.open(n);
         airs[airCount].read(tape);
         if (tape.fault != 0) {
             return tape.fault - 10;
-        }
-        if (airCount == MOST_AIRS) {
-            return -1;
         }
         airCount++;
         return airCount - 1;
@@ -776,6 +777,10 @@ public final class NightSounds {
             here = 0;
             fault = 0;
             faultPlace = NONE;
+            empty();
+        }
+
+        private void empty() {
             fed = 0;
         }
 

@@ -392,6 +392,9 @@ final class Model {
         within(n, 0, Math.min(200, tape.length));
         byte[] text = Arrays.copyOf(tape, n);
         tape = new byte[0];
+        if (airs.size() == 6) {
+            return -1;
+        }
         faultPlace = -1;
         int[] bends = new int[12];
         int wind = 0;
@@ -410,9 +413,6 @@ final class Model {
         } catch (Fault f) {
             faultPlace = f.place;
             return f.kind - 10;
-        }
-        if (airs.size() == 6) {
-            return -1;
         }
         airs.add(new Air(bends, wind, weight, fine));
         return airs.size() - 1;

@@ -12,6 +12,7 @@ public final class PromisesTest {
         landFaults();
         landLimits();
         air();
+        seventhAir();
         airFaults();
         fault();
         told();
@@ -270,8 +271,33 @@ public final class PromisesTest {
         due("4: still 6", x.told(4), 6);
         due("4: the weights stay", x.nights(0, 0, 1), 3 + 1 + 1 + 11 + 1 + 1);
         due("4: the tape went", x.count(3), 0);
-        due("4: a fault ahead of that", Check.air(x, "weight 500;"), -8);
-        due("4: its place", x.fault(), 7);
+    }
+
+    private static void seventhAir() {
+        NightSounds x = Check.with("house 0 0;", "", "", "", "", "", "");
+        for (String text : new String[] {"weight 500;", "x", "weight 9", "fine 1;".repeat(21), "wind 4;", ""}) {
+            due("4: with 6 " + text, Check.air(x, text), -1);
+            due("5: with 6 " + text, x.fault(), -1);
+            due("4: tape with 6 " + text, x.count(3), 0);
+        }
+        due("4: bytes behind n go too", x.feed(0, 0, 0, 0, 0), 20);
+        due("4: none of them", x.air(0), -1);
+        due("4: they went", x.count(3), 0);
+        Check.feed(x, "?".repeat(220));
+        Check.noArgument("4: with 6, air(-1)", x, () -> x.air(-1));
+        Check.noArgument("4: with 6, air(201)", x, () -> x.air(201));
+        due("4: with 6, the tape stays", x.count(3), 220);
+        due("4: with 6, 200 bytes", x.air(200), -1);
+        Check.noArgument("4: with 6, air(1)", x, () -> x.air(1));
+        due("4: six", x.told(4), 6);
+        due("4: their weights", x.nights(0, 0, 1), 6);
+        Check.land(x, "cells 7;");
+        due("4: with 6, behind a fault", Check.air(x, "x"), -1);
+        due("5: the fault of the latest text", x.fault(), 6);
+        due("4: with 6, a right text", Check.air(x, "wind 1;"), -1);
+        due("5: still the fault of the latest text", x.fault(), 6);
+        Check.land(x, "");
+        due("5: a right text since", x.fault(), -1);
     }
 
     private static void airFault(String text, int kind, int place) {
