@@ -127,12 +127,11 @@ public final class NightSounds {
 
     public int air(int n) throws IllegalArgumentException {
         needArgument(n >= 0 && n <= Math.min(tape.fed, MOST_AIR_BYTES));
+        // Opened even if there are 6: it is the latest text then, though no FAULT of it is told.
+        tape.open(n);
         if (airCount >= MOST_AIRS) {
-            // The bytes are no text then: the FAULT of the latest one is still told.
-            tape.empty();
             return -1;
         }
-        tape.open(n);
         airs[airCount].read(tape);
         if (tape.fault != 0) {
             return tape.fault - 10;
@@ -777,10 +776,6 @@ public final class NightSounds {
             here = 0;
             fault = 0;
             faultPlace = NONE;
-            empty();
-        }
-
-        private void empty() {
             fed = 0;
         }
 

@@ -392,10 +392,10 @@ final class Model {
         within(n, 0, Math.min(200, tape.length));
         byte[] text = Arrays.copyOf(tape, n);
         tape = new byte[0];
+        faultPlace = -1;
         if (airs.size() == 6) {
             return -1;
         }
-        faultPlace = -1;
         int[] bends = new int[12];
         int wind = 0;
         int weight = 1;

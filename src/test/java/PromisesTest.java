@@ -291,13 +291,22 @@ public final class PromisesTest {
         Check.noArgument("4: with 6, air(1)", x, () -> x.air(1));
         due("4: six", x.told(4), 6);
         due("4: their weights", x.nights(0, 0, 1), 6);
+        seventhAirBehindFault("x");
+        seventhAirBehindFault("weight 500;");
+        seventhAirBehindFault("wind 1;");
+        seventhAirBehindFault("");
+    }
+
+    private static void seventhAirBehindFault(String text) {
+        NightSounds x = Check.with("house 0 0;", "", "", "", "", "", "");
         Check.land(x, "cells 7;");
-        due("4: with 6, behind a fault", Check.air(x, "x"), -1);
-        due("5: the fault of the latest text", x.fault(), 6);
-        due("4: with 6, a right text", Check.air(x, "wind 1;"), -1);
-        due("5: still the fault of the latest text", x.fault(), 6);
-        Check.land(x, "");
-        due("5: a right text since", x.fault(), -1);
+        due("5: a land's fault, with 6 airs", x.fault(), 6);
+        Check.noArgument("4: with 6, behind a fault, air(1)", x, () -> x.air(1));
+        due("5: a refused air told no text", x.fault(), 6);
+        due("4: with 6, behind a fault, " + text, Check.air(x, text), -1);
+        due("5: no fault is told of " + text, x.fault(), -1);
+        Check.land(x, "cells 7;");
+        due("5: a land's fault behind " + text, x.fault(), 6);
     }
 
     private static void airFault(String text, int kind, int place) {
