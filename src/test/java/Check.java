@@ -1,9 +1,17 @@
+import java.lang.reflect.InvocationTargetException;
+import java.math.BigInteger;
+import java.util.Arrays;
 import java.util.NoSuchElementException;
 
 /** What the project's tests share: feeding a text, and holding answers and refusals against what is due. */
 final class Check {
     interface Call {
         long run();
+    }
+
+    /** What is due of a text: landText or airText. */
+    interface Text {
+        void due(String text, int fault, int place);
     }
 
     private static int wrong = 0;
@@ -83,6 +91,67 @@ final class Check {
             due(airs[i], air(x, airs[i]), i);
         }
         return x;
+    }
+
+    /** What is due of the text of a LAND: FAULT 0 is none; the place is told for a FAULT alone. */
+    static void landText(String text, int fault, int place) {
+        NightSounds x = new NightSounds();
+        due("land " + text, land(x, text), fault == 0 ? x.told(1) : fault - 10);
+        due("fault of " + text, x.fault(), fault == 0 ? -1 : place);
+    }
+
+    /** Likewise of an AIR: with a FAULT there is none behind it. */
+    static void airText(String text, int fault, int place) {
+        NightSounds x = new NightSounds();
+        due("air " + text, air(x, text), fault == 0 ? 0 : fault - 10);
+        due("fault of " + text, x.fault(), fault == 0 ? -1 : place);
+        due("airs by " + text, x.told(4), fault == 0 ? 1 : 0);
+    }
+
+    /** A number from low to high stands between two parts of a text: none such is FAULT 2, where it begins. */
+    static void numberBounds(Text texts, String ahead, int low, int high, String behind) {
+        int place = ahead.length();
+        for (int fits : new int[] {low, high}) {
+            texts.due(ahead + fits + behind, 0, 0);
+            texts.due(ahead + "0".repeat(30) + fits + behind, 0, 0);
+        }
+        texts.due(ahead + (high + 1) + behind, 2, place);
+        texts.due(ahead + "0" + (high + 1) + behind, 2, place);
+        if (low > 0) {
+            texts.due(ahead + (low - 1) + behind, 2, place);
+            texts.due(ahead + "00" + behind, 2, place);
+        }
+        for (int bits : new int[] {8, 16, 31, 32, 63, 64, 128}) {
+            BigInteger wrapped = BigInteger.ONE.shiftLeft(bits).add(BigInteger.valueOf(low));
+            if (wrapped.compareTo(BigInteger.valueOf(high)) > 0) {
+                texts.due(ahead + wrapped + behind, 2, place);
+            }
+        }
+        texts.due(ahead + "1" + "0".repeat(40) + low + behind, 2, place);
+        texts.due(ahead + "-" + low + behind, 1, place);
+        texts.due(ahead + "+" + low + behind, 1, place);
+    }
+
+    /** Any call by its name: its answer, or what it throws. */
+    static String answer(Object object, String name, int... numbers) {
+        Class<?>[] types = new Class<?>[numbers.length];
+        Arrays.fill(types, int.class);
+        try {
+            Object[] boxed = Arrays.stream(numbers).boxed().toArray();
+            return String.valueOf(object.getClass().getDeclaredMethod(name, types).invoke(object, boxed));
+        } catch (InvocationTargetException e) {
+            return "throws " + e.getCause().getClass().getName();
+        } catch (ReflectiveOperationException e) {
+            throw new AssertionError(e);
+        }
+    }
+
+    static void same(String what, String got, String want) {
+        checks++;
+        if (!got.equals(want)) {
+            wrong++;
+            System.out.println(what + " answered " + got + ", due is " + want);
+        }
     }
 
     static void end() {

@@ -134,115 +134,109 @@ public final class PromisesTest {
         due("3: cells of these", x.told(0), 8);
     }
 
-    private static void landFault(String text, int kind, int place) {
-        NightSounds x = new NightSounds();
-        due("land " + text, Check.land(x, text), kind == 0 ? x.told(1) : kind - 10);
-        due("fault of " + text, x.fault(), kind == 0 ? -1 : place);
-    }
-
     private static void landFaults() {
-        landFault("cells 7;", 2, 6);
-        landFault("cells 8;", 0, 0);
-        landFault("cells 40;", 0, 0);
-        landFault("cells 41;", 2, 6);
-        landFault("cells 99999999999999999999999;", 2, 6);
-        landFault("cells 4294967304;", 2, 6);
-        landFault("cells 00000000000000000000000000008;", 0, 0);
-        landFault("cells9;", 0, 0);
-        landFault("  cells  9  ;  ", 0, 0);
-        landFault("cells", 1, 5);
-        landFault("cells ", 1, 6);
-        landFault("cells 9", 1, 7);
-        landFault("cells 9 ", 1, 8);
-        landFault("cells ;", 1, 6);
-        landFault("cells 9x;", 1, 7);
-        landFault("cells 9 9;", 1, 8);
-        landFault("cells -9;", 1, 6);
-        landFault("Cells 9;", 1, 0);
-        landFault(" cell 9;", 1, 1);
-        landFault("cellsx 9;", 1, 0);
-        landFault("cel", 1, 0);
-        landFault(";", 1, 0);
-        landFault("9;", 1, 0);
-        landFault("cells 9;;", 1, 8);
-        landFault("cells\t9;", 1, 5);
-        landFault("wind 1;", 1, 0);
-        landFault("cells 9;cells 9;", 4, 8);
-        landFault("hum 0 0; cells 9;", 4, 9);
-        landFault("cells 7 x", 2, 6);
-        landFault("wall 0 1;wall 99 1;x", 2, 14);
-        landFault("ground 20 20 0 0;", 2, 7);
-        landFault("ground 19 19 3 9;", 0, 0);
-        landFault("ground 5 4 0 0;", 2, 9);
-        landFault("ground 0 20 0 0;", 2, 9);
-        landFault("ground 0 0 4 0;", 2, 11);
-        landFault("ground 0 0 0 10;", 2, 13);
-        landFault("ground 0 0 0;", 1, 12);
-        landFault("wall 20 1;", 2, 5);
-        landFault("wall 0 0;", 2, 7);
-        landFault("wall 0 10;", 2, 7);
-        landFault("cells 30;wall 29 9;", 0, 0);
-        landFault("house 20 0;", 2, 6);
-        landFault("house 19 60;", 0, 0);
-        landFault("house 0 61;", 2, 8);
-        landFault("hum 24 0;", 2, 4);
-        landFault("hum 23 40;", 0, 0);
-        landFault("hum 0 41;", 2, 6);
-        landFault("source 20 1 1 1;", 2, 7);
-        landFault("source 0 0 1 1;", 2, 9);
-        landFault("source 0 121 1 1;", 2, 9);
-        landFault("source 0 120 3 16777215;", 0, 0);
-        landFault("source 0 1 0 1;", 2, 11);
-        landFault("source 0 1 4 1;", 2, 11);
-        landFault("source 0 1 1 0;", 2, 13);
-        landFault("source 0 1 1 16777216;", 2, 13);
+        Check.landText("cells 7;", 2, 6);
+        Check.landText("cells 8;", 0, 0);
+        Check.landText("cells 40;", 0, 0);
+        Check.landText("cells 41;", 2, 6);
+        Check.landText("cells 99999999999999999999999;", 2, 6);
+        Check.landText("cells 4294967304;", 2, 6);
+        Check.landText("cells 00000000000000000000000000008;", 0, 0);
+        Check.landText("cells9;", 0, 0);
+        Check.landText("  cells  9  ;  ", 0, 0);
+        Check.landText("cells", 1, 5);
+        Check.landText("cells ", 1, 6);
+        Check.landText("cells 9", 1, 7);
+        Check.landText("cells 9 ", 1, 8);
+        Check.landText("cells ;", 1, 6);
+        Check.landText("cells 9x;", 1, 7);
+        Check.landText("cells 9 9;", 1, 8);
+        Check.landText("cells -9;", 1, 6);
+        Check.landText("Cells 9;", 1, 0);
+        Check.landText(" cell 9;", 1, 1);
+        Check.landText("cellsx 9;", 1, 0);
+        Check.landText("cel", 1, 0);
+        Check.landText(";", 1, 0);
+        Check.landText("9;", 1, 0);
+        Check.landText("cells 9;;", 1, 8);
+        Check.landText("cells\t9;", 1, 5);
+        Check.landText("wind 1;", 1, 0);
+        Check.landText("cells 9;cells 9;", 4, 8);
+        Check.landText("hum 0 0; cells 9;", 4, 9);
+        Check.landText("cells 7 x", 2, 6);
+        Check.landText("wall 0 1;wall 99 1;x", 2, 14);
+        Check.landText("ground 20 20 0 0;", 2, 7);
+        Check.landText("ground 19 19 3 9;", 0, 0);
+        Check.landText("ground 5 4 0 0;", 2, 9);
+        Check.landText("ground 0 20 0 0;", 2, 9);
+        Check.landText("ground 0 0 4 0;", 2, 11);
+        Check.landText("ground 0 0 0 10;", 2, 13);
+        Check.landText("ground 0 0 0;", 1, 12);
+        Check.landText("wall 20 1;", 2, 5);
+        Check.landText("wall 0 0;", 2, 7);
+        Check.landText("wall 0 10;", 2, 7);
+        Check.landText("cells 30;wall 29 9;", 0, 0);
+        Check.landText("house 20 0;", 2, 6);
+        Check.landText("house 19 60;", 0, 0);
+        Check.landText("house 0 61;", 2, 8);
+        Check.landText("hum 24 0;", 2, 4);
+        Check.landText("hum 23 40;", 0, 0);
+        Check.landText("hum 0 41;", 2, 6);
+        Check.landText("source 20 1 1 1;", 2, 7);
+        Check.landText("source 0 0 1 1;", 2, 9);
+        Check.landText("source 0 121 1 1;", 2, 9);
+        Check.landText("source 0 120 3 16777215;", 0, 0);
+        Check.landText("source 0 1 0 1;", 2, 11);
+        Check.landText("source 0 1 4 1;", 2, 11);
+        Check.landText("source 0 1 1 0;", 2, 13);
+        Check.landText("source 0 1 1 16777216;", 2, 13);
         workFaults();
     }
 
     private static void workFaults() {
-        landFault("screen 20 1 1;", 2, 7);
-        landFault("screen 0 0 1;", 2, 9);
-        landFault("screen 0 10 1;", 2, 9);
-        landFault("screen 0 1 0;", 2, 11);
-        landFault("screen 0 1 100;", 2, 11);
-        landFault("screen 19 9 99;", 0, 0);
-        landFault("tar 20 20 1;", 2, 4);
-        landFault("tar 5 4 1;", 2, 6);
-        landFault("tar 0 20 1;", 2, 6);
-        landFault("tar 0 0 0;", 2, 8);
-        landFault("tar 0 19 99;", 0, 0);
-        landFault("hush 0 1 1;source 0 1 1 1;", 2, 5);
-        landFault("source 0 1 1 1;hush 1 1 1;", 2, 20);
-        landFault("source 0 1 1 1;hush 0 0 1;", 2, 22);
-        landFault("source 0 1 1 1;hush 0 100 1;", 2, 22);
-        landFault("source 0 1 1 1;hush 0 99 0;", 2, 25);
-        landFault("source 0 1 1 1;hush 0 99 99;", 0, 0);
-        landFault("foam 0 1 1;house 0 0;", 2, 5);
-        landFault("house 0 0;foam 1 1 1;", 2, 15);
-        landFault("house 0 0;foam 0 0 1;", 2, 17);
-        landFault("house 0 0;foam 0 31 1;", 2, 17);
-        landFault("house 0 0;foam 0 30 100;", 2, 20);
-        landFault("house 0 0;foam 0 30 99;", 0, 0);
+        Check.landText("screen 20 1 1;", 2, 7);
+        Check.landText("screen 0 0 1;", 2, 9);
+        Check.landText("screen 0 10 1;", 2, 9);
+        Check.landText("screen 0 1 0;", 2, 11);
+        Check.landText("screen 0 1 100;", 2, 11);
+        Check.landText("screen 19 9 99;", 0, 0);
+        Check.landText("tar 20 20 1;", 2, 4);
+        Check.landText("tar 5 4 1;", 2, 6);
+        Check.landText("tar 0 20 1;", 2, 6);
+        Check.landText("tar 0 0 0;", 2, 8);
+        Check.landText("tar 0 19 99;", 0, 0);
+        Check.landText("hush 0 1 1;source 0 1 1 1;", 2, 5);
+        Check.landText("source 0 1 1 1;hush 1 1 1;", 2, 20);
+        Check.landText("source 0 1 1 1;hush 0 0 1;", 2, 22);
+        Check.landText("source 0 1 1 1;hush 0 100 1;", 2, 22);
+        Check.landText("source 0 1 1 1;hush 0 99 0;", 2, 25);
+        Check.landText("source 0 1 1 1;hush 0 99 99;", 0, 0);
+        Check.landText("foam 0 1 1;house 0 0;", 2, 5);
+        Check.landText("house 0 0;foam 1 1 1;", 2, 15);
+        Check.landText("house 0 0;foam 0 0 1;", 2, 17);
+        Check.landText("house 0 0;foam 0 31 1;", 2, 17);
+        Check.landText("house 0 0;foam 0 30 100;", 2, 20);
+        Check.landText("house 0 0;foam 0 30 99;", 0, 0);
     }
 
     private static void landLimits() {
-        landFault("wall 0 1;".repeat(60), 0, 0);
-        landFault("wall 0 1;".repeat(60) + "  ", 0, 0);
-        landFault("wall 0 1;".repeat(60) + " wall 0 1;", 3, 541);
-        landFault("wall 0 1;".repeat(60) + "cells 9;", 3, 540);
-        landFault("wall 0 1;".repeat(60) + "cell 9;", 1, 540);
-        landFault("wall 0 1;".repeat(60) + ";", 1, 540);
-        landFault("house 0 0;".repeat(8), 0, 0);
-        landFault("house 0 0;".repeat(9), 3, 80);
-        landFault("house 0 0;".repeat(8) + "house", 3, 80);
-        landFault("source 0 1 1 1;".repeat(6), 0, 0);
-        landFault("source 0 1 1 1;".repeat(7), 3, 90);
-        landFault("tar 0 1 1;".repeat(8), 0, 0);
-        landFault("tar 0 1 1;".repeat(8) + "screen 0 1 1;", 3, 80);
-        landFault("tar 0 1 1;".repeat(8) + "hush 0 1 1;", 3, 80);
-        landFault("tar 0 1 1;".repeat(8) + "foam 0 1 1;", 3, 80);
-        landFault("tar 0 1 1;".repeat(8) + "tar 0 1 1;", 3, 80);
-        landFault("tar 0 1 1;".repeat(8) + "wall 0 1;", 0, 0);
+        Check.landText("wall 0 1;".repeat(60), 0, 0);
+        Check.landText("wall 0 1;".repeat(60) + "  ", 0, 0);
+        Check.landText("wall 0 1;".repeat(60) + " wall 0 1;", 3, 541);
+        Check.landText("wall 0 1;".repeat(60) + "cells 9;", 3, 540);
+        Check.landText("wall 0 1;".repeat(60) + "cell 9;", 1, 540);
+        Check.landText("wall 0 1;".repeat(60) + ";", 1, 540);
+        Check.landText("house 0 0;".repeat(8), 0, 0);
+        Check.landText("house 0 0;".repeat(9), 3, 80);
+        Check.landText("house 0 0;".repeat(8) + "house", 3, 80);
+        Check.landText("source 0 1 1 1;".repeat(6), 0, 0);
+        Check.landText("source 0 1 1 1;".repeat(7), 3, 90);
+        Check.landText("tar 0 1 1;".repeat(8), 0, 0);
+        Check.landText("tar 0 1 1;".repeat(8) + "screen 0 1 1;", 3, 80);
+        Check.landText("tar 0 1 1;".repeat(8) + "hush 0 1 1;", 3, 80);
+        Check.landText("tar 0 1 1;".repeat(8) + "foam 0 1 1;", 3, 80);
+        Check.landText("tar 0 1 1;".repeat(8) + "tar 0 1 1;", 3, 80);
+        Check.landText("tar 0 1 1;".repeat(8) + "wall 0 1;", 0, 0);
     }
 
     // Promise 4
@@ -309,33 +303,26 @@ public final class PromisesTest {
         due("5: a land's fault behind " + text, x.fault(), 6);
     }
 
-    private static void airFault(String text, int kind, int place) {
-        NightSounds x = new NightSounds();
-        due("air " + text, Check.air(x, text), kind == 0 ? 0 : kind - 10);
-        due("fault of " + text, x.fault(), kind == 0 ? -1 : place);
-        due("airs by " + text, x.told(4), kind == 0 ? 1 : 0);
-    }
-
     private static void airFaults() {
-        airFault("", 0, 0);
-        airFault("   ", 0, 0);
-        airFault("layer 11 4;", 0, 0);
-        airFault("layer 12 0;", 2, 6);
-        airFault("layer 0 5;", 2, 8);
-        airFault("layer 0;", 1, 7);
-        airFault("wind 4;", 0, 0);
-        airFault("wind 5;", 2, 5);
-        airFault("weight 99;", 0, 0);
-        airFault("weight 0;", 2, 7);
-        airFault("weight 100;", 2, 7);
-        airFault("fine 8;fine 0;", 0, 0);
-        airFault("fine 9;", 2, 5);
-        airFault("fine", 1, 4);
-        airFault("fines 1;", 1, 0);
-        airFault("cells 9;", 1, 0);
-        airFault("fine 1;".repeat(20), 0, 0);
-        airFault("fine 1;".repeat(21), 3, 140);
-        airFault("fine 1;".repeat(20) + " fin", 1, 141);
+        Check.airText("", 0, 0);
+        Check.airText("   ", 0, 0);
+        Check.airText("layer 11 4;", 0, 0);
+        Check.airText("layer 12 0;", 2, 6);
+        Check.airText("layer 0 5;", 2, 8);
+        Check.airText("layer 0;", 1, 7);
+        Check.airText("wind 4;", 0, 0);
+        Check.airText("wind 5;", 2, 5);
+        Check.airText("weight 99;", 0, 0);
+        Check.airText("weight 0;", 2, 7);
+        Check.airText("weight 100;", 2, 7);
+        Check.airText("fine 8;fine 0;", 0, 0);
+        Check.airText("fine 9;", 2, 5);
+        Check.airText("fine", 1, 4);
+        Check.airText("fines 1;", 1, 0);
+        Check.airText("cells 9;", 1, 0);
+        Check.airText("fine 1;".repeat(20), 0, 0);
+        Check.airText("fine 1;".repeat(21), 3, 140);
+        Check.airText("fine 1;".repeat(20) + " fin", 1, 141);
     }
 
     // Promise 5

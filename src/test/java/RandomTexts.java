@@ -32,23 +32,24 @@ final class RandomTexts {
         return random.nextInt(3) == 0 ? from(1, 16777215) : 16777215;
     }
 
-    String land() {
+    /** A full one has all the CELLS, HOUSES, SOURCES and WORKS that there may be. */
+    String land(boolean full) {
         StringBuilder text = new StringBuilder();
         int cells = 20;
-        if (random.nextInt(4) != 0) {
-            cells = from(8, 40);
+        if (full || random.nextInt(4) != 0) {
+            cells = full ? 40 : from(8, 40);
             add(text, 600, "cells", cells);
         }
         int quiet = random.nextInt(3) == 0 ? 0 : 15;
-        int houses = from(0, 8);
-        int sources = from(0, 6);
+        int houses = full ? 8 : from(0, 8);
+        int sources = full ? 6 : from(0, 6);
         for (int i = 0; i < sources; i++) {
             add(text, 600, "source", from(0, cells - 1), from(20, 120), from(1, 3), hours());
         }
         for (int i = 0; i < houses; i++) {
             add(text, 600, "house", from(0, cells - 1), from(0, random.nextInt(3) == 0 ? 60 : quiet));
         }
-        addWorks(text, cells, houses, sources);
+        addWorks(text, full ? 8 : from(0, 8), cells, houses, sources);
         for (int i = from(0, 4); i > 0; i--) {
             add(text, 600, "hum", from(0, 23), from(0, random.nextInt(3) == 0 ? 40 : quiet));
         }
@@ -62,8 +63,8 @@ final class RandomTexts {
         return spoil(text.append(blanks(0)));
     }
 
-    private void addWorks(StringBuilder text, int cells, int houses, int sources) {
-        for (int i = from(0, 8); i > 0; i--) {
+    private void addWorks(StringBuilder text, int works, int cells, int houses, int sources) {
+        for (int i = works; i > 0; i--) {
             int kind = from(0, 3);
             int coin = from(1, random.nextBoolean() ? 99 : 4);
             if (kind == 0) {
