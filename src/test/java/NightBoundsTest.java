@@ -103,7 +103,8 @@ public final class NightBoundsTest {
             due("in hours " + hours[i], x.badly(0), due[i]);
         }
         due("without airs", Check.with("house 3 0;source 3 5 1 3;").badly(0), 0);
-        NightSounds x = Check.with("cells 8;source 0 100 1 3;wall 1 5;house 5 60;", times(9, OVER), times(7, ""), times(80, OVER));
+        NightSounds x = Check.with("cells 8;source 0 100 1 3;wall 1 5;house 5 60;", times(9, OVER), times(7, ""),
+                times(80, OVER));
         due("of airs by which it does", x.badly(0), 89);
         x = Check.with("house 3 0;source 3 5 1 3;", times(99, ""), times(99, ""), times(99, ""), times(99, ""), times(99, ""),
                 times(99, ""));
@@ -206,13 +207,15 @@ public final class NightBoundsTest {
         least("the second is less dear", Check.with(land + "foam 0 1 5;foam 0 1 4;", ""), 1, 4, 2);
         least("the last of eight", Check.with(land + "foam 0 1 2;".repeat(7) + "foam 0 1 1;", ""), 1, 1, 128);
         least("one of 4, two of 2", Check.with("house 3 6;source 3 7 1 1;foam 0 1 2;foam 0 1 2;foam 0 2 4;", ""), 1, 4, 3);
-        least("one of 4, ahead of two of 2", Check.with("house 3 6;source 3 7 1 1;foam 0 2 4;foam 0 1 2;foam 0 1 2;", ""), 1, 4, 1);
+        least("one of 4, ahead of two of 2", Check.with("house 3 6;source 3 7 1 1;foam 0 2 4;foam 0 1 2;foam 0 1 2;", ""),
+                1, 4, 1);
         least("one of 3, two of 2", Check.with("house 3 6;source 3 7 1 1;foam 0 1 2;foam 0 1 2;foam 0 2 3;", ""), 1, 3, 4);
     }
 
     /** One AIR after another, one hour after another: each has its own. */
     private static void leastByEachAirAndHour() {
-        NightSounds x = Check.with("cells 8;source 0 100 1 3;source 0 120 1 2;wall 1 5;house 5 60;foam 0 18 7;foam 0 20 9;", "", OVER);
+        NightSounds x = Check.with("cells 8;source 0 100 1 3;source 0 120 1 2;wall 1 5;house 5 60;foam 0 18 7;foam 0 20 9;",
+                "", OVER);
         for (int i = 0; i < 2; i++) {
             due("silent by one", x.least(0, 0, 1, 0), 0);
             due("77 by the other", x.least(1, 0, 1, 0), 7);
@@ -329,7 +332,8 @@ public final class NightBoundsTest {
         }
         due("9 does", Check.with("cells 8;house 0 20;house 2 0;wall 1 6;ground 2 2 0 1;", "").bell(0, 0, 20, 1, 3), 900);
         due("10 would", Check.with("cells 8;house 0 20;house 2 0;wall 1 7;ground 2 2 0 2;", "").bell(0, 0, 20, 1, 3), -1);
-        due("above the ground of its cell", Check.with("cells 8;ground 0 0 0 9;house 0 30;house 3 0;", "").bell(0, 0, 30, 1, 3), 100);
+        NightSounds high = Check.with("cells 8;ground 0 0 0 9;house 0 30;house 3 0;", "");
+        due("above the ground of its cell", high.bell(0, 0, 30, 1, 3), 100);
     }
 
     /** "of these the first CELL": the PLACE counts ahead of it. */
@@ -364,7 +368,8 @@ public final class NightBoundsTest {
     private static void bellNowhere() {
         due("too far apart", Check.with("cells 40;house 0 0;house 39 0;", "").bell(0, 0, 40, 1, 3), -1);
         due("one of them", Check.with("cells 40;house 0 0;house 39 0;", "").bell(0, 0, 1, 1, 2), 139);
-        due("walls about the last", Check.with("cells 40;house 37 0;house 39 0;wall 38 9;wall 39 9;", "").bell(0, 0, 120, 1, 3), -1);
+        NightSounds walled = Check.with("cells 40;house 37 0;house 39 0;wall 38 9;wall 39 9;", "");
+        due("walls about the last", walled.bell(0, 0, 120, 1, 3), -1);
         NightSounds x = Check.with("cells 8;house 5 5;source 5 120 1 1;", "");
         due("4 of 5", x.bell(0, 0, 4, 1, 1), -1);
         due("5 of 5", x.bell(0, 0, 5, 1, 1), 105);

@@ -325,7 +325,8 @@ public final class RayBoundsTest {
     /** "where it stands: its LEVEL". */
     private static void whereItStands() {
         for (int level : new int[] {1, 2, 119, 120}) {
-            NightSounds x = Check.with("cells 8;ground 0 0 3 9;wall 0 9;source 0 " + level + " 3 1;source 7 " + level + " 1 2;", "");
+            NightSounds x = Check.with("cells 8;ground 0 0 3 9;wall 0 9;source 0 " + level + " 3 1;source 7 " + level
+                    + " 1 2;", "");
             due("at the first", x.loud(0, 0, 0), level);
             due("at the last", x.loud(7, 0, 1), level);
         }
@@ -333,7 +334,8 @@ public final class RayBoundsTest {
 
     /** "LOUD at a CELL in an hour by an AIR: the most of all SOURCES of that hour." */
     private static void mostOfAllSources() {
-        NightSounds x = Check.with("source 4 7 1 1;source 4 9 1 3;source 4 8 1 6;source 4 1 1 6;source 4 3 1 6;source 4 120 1 32;", "");
+        NightSounds x = Check.with("source 4 7 1 1;source 4 9 1 3;source 4 8 1 6;source 4 1 1 6;source 4 3 1 6;"
+                + "source 4 120 1 32;", "");
         int[] due = {9, 9, 8, 0, 0, 120, 0};
         for (int hour = 0; hour < due.length; hour++) {
             due("in hour " + hour, x.at(4, 0, hour), due[hour]);
