@@ -720,18 +720,17 @@ public final class NightSounds {
 
     /** A time of the BANG fits all TIMES if no two of them tell of times more than 2 d apart. */
     private boolean timesAreRight(int x, int v, int d) {
-        int earliest = Integer.MAX_VALUE;
-        int latest = Integer.MIN_VALUE;
-        boolean any = false;
+        // No time of it that a TIME tells lies outside these, and without TIMES any time fits.
+        int earliest = LAST_TIME;
+        int latest = -LAST_TIME;
         for (int k = 0; k < now.houses; k++) {
             if (mind.times[k] >= 0) {
                 int sent = mind.times[k] - v * Math.abs(now.houseCells[k] - x);
                 earliest = Math.min(earliest, sent);
                 latest = Math.max(latest, sent);
-                any = true;
             }
         }
-        return !any || latest - earliest <= 2 * d;
+        return latest - earliest <= 2 * d;
     }
 
     private int pace(int length, int many) {

@@ -8,7 +8,9 @@ import java.nio.file.Path;
 import java.util.ArrayList;
 import java.util.Arrays;
 import java.util.List;
+import java.util.Map;
 import java.util.Set;
+import java.util.TreeMap;
 import java.util.TreeSet;
 import java.util.regex.Matcher;
 import java.util.regex.Pattern;
@@ -24,8 +26,10 @@ public final class LanguageTest {
         face();
         members();
         signs();
+        library();
         methods();
         rooms();
+        depth();
         System.out.println(wrong == 0 ? "the language is kept to" : wrong + " rules are broken");
         System.exit(wrong == 0 ? 0 : 1);
     }
@@ -123,6 +127,19 @@ public final class LanguageTest {
         }
     }
 
+    /** Rule 4: of the library's classes only the functions that it lists, and none of their constants. */
+    private static void library() throws IOException {
+        Set<String> listed = Set.of("Math.max", "Math.min", "Math.abs", "Arrays.fill", "System.arraycopy");
+        Matcher used = Pattern.compile("(?<![.\\w])[A-Z][a-z]\\w*\\.\\w+").matcher(
+                code().replaceAll("import [^;]*;", ""));
+        while (used.find()) {
+            must(listed.contains(used.group()), "4: " + used.group());
+        }
+        for (String name : List.of("Integer", "Long", "Boolean", "Character", "StringBuilder", "List", "ArrayList")) {
+            must(!Pattern.compile("\\b" + name + "\\b").matcher(code()).find(), "4: " + name);
+        }
+    }
+
     /** Rule 11: methods stay short. */
     private static void methods() throws IOException {
         int start = 0;
@@ -147,5 +164,90 @@ public final class LanguageTest {
                     || plain.matches("private Land \\w+ = new Land\\(\\);") || inConstructors.contains(plain);
             must(!plain.contains("new ") || fine, "12: made by a call: " + plain);
         }
+    }
+
+    /** Each method or constructor of the file, by its class and name, with its body. */
+    private static Map<String, String> bodies() throws IOException {
+        Map<String, String> bodies = new TreeMap<>();
+        String inside = "";
+        String name = "";
+        Pattern head = Pattern.compile("^ {4,8}(?:public|private) (?:static )?(?:[\\w\\[\\]]+ )?(\\w+)\\(.*");
+        Pattern type = Pattern.compile("^.*\\bclass (\\w+) \\{$");
+        for (String line : code().split("\n")) {
+            Matcher declared = type.matcher(line);
+            Matcher begun = head.matcher(line);
+            if (declared.matches()) {
+                inside = declared.group(1);
+                name = "";
+            } else if (begun.matches()) {
+                name = inside + "." + begun.group(1);
+                must(bodies.put(name, "") == null, "a method of that name stands there twice: " + name);
+            } else if (!name.isEmpty()) {
+                bodies.merge(name, line + "\n", String::concat);
+            }
+        }
+        return bodies;
+    }
+
+    /** The class that a call's receiver is of: what stands ahead of the name tells it here. */
+    private static String classOf(String receiver, String inside) {
+        switch (receiver.replaceAll("^.*\\.|\\[.*", "")) {
+            case "": case "this": return inside;
+            case "tape": return "Tape";
+            case "now": case "spare": case "trial": case "asTold": case "land": return "Land";
+            case "airs": case "air": return "Air";
+            case "mind": case "images": return "Mind";
+            case "sounds": return "Sounds";
+            case "beam": return "Ray";
+            case "list": case "Math": case "Arrays": case "System": return "library";
+            default:
+                must(false, "of which class is " + receiver + "?");
+                return "";
+        }
+    }
+
+    /** Which methods a method calls; a constructor, "new X(..)", is none of them but X.X. */
+    private static Set<String> calls(String inside, String body, Map<String, String> bodies) {
+        Set<String> calls = new TreeSet<>();
+        Matcher call = Pattern.compile("(new )?([\\w.]+(?:\\[\\w+\\])?\\.)?\\b([A-Za-z]\\w*)\\(").matcher(body);
+        while (call.find()) {
+            String name = call.group(3);
+            boolean isSign = Set.of("if", "for", "while", "switch", "return").contains(name);
+            String receiver = call.group(2) == null ? "" : call.group(2).substring(0, call.group(2).length() - 1);
+            if (call.group(1) != null || isSign) {
+                continue;
+            }
+            String where = classOf(receiver, inside);
+            boolean isOuter = receiver.isEmpty() && !bodies.containsKey(where + "." + name);
+            String full = (isOuter ? "NightSounds" : where) + "." + name;
+            must(where.equals("library") || bodies.containsKey(full), "what is called by " + call.group() + "?");
+            calls.add(full);
+        }
+        return calls;
+    }
+
+    private static int depthOf(String method, Map<String, String> bodies, List<String> open) {
+        List<String> chain = new ArrayList<>(open);
+        chain.add(method);
+        if (open.contains(method) || chain.size() > 8) {
+            must(false, (open.contains(method) ? "8: calls itself: " : "11: more than eight deep: ") + chain);
+            return chain.size();
+        }
+        int deepest = chain.size();
+        String inside = method.substring(0, method.indexOf('.'));
+        for (String next : calls(inside, bodies.getOrDefault(method, ""), bodies)) {
+            deepest = Math.max(deepest, depthOf(next, bodies, chain));
+        }
+        return deepest;
+    }
+
+    /** Rules 8, 11: no recursion, and calls at most eight deep, those of the library too. */
+    private static void depth() throws IOException {
+        Map<String, String> bodies = bodies();
+        int deepest = 0;
+        for (String method : bodies.keySet()) {
+            deepest = Math.max(deepest, depthOf(method, bodies, List.of()));
+        }
+        must(deepest == 8, "the deepest chain that was read has " + deepest + " calls, NOTES.md tells one of 8");
     }
 }
